@@ -1,5 +1,3 @@
-import java.util.Arrays;
-
 /** A lazy language and its machine: a tape is read as a program, which a machine of steps evaluates. */
 public final class LazyHouse {
     // Limits that the document tells.
@@ -18,8 +16,11 @@ public final class LazyHouse {
     private static final int LOOP_LIMIT = 1000000;
     private static final int ROW_LIMIT = 1 << 20;
 
-    private static final String TRUE_LETTERS = "True";
-    private static final String FALSE_LETTERS = "False";
+    // What is spelled in every program: the names and the makers that get the first numbers, in this order.
+    private static final String KNOWN_LETTERS = "letincaseofmainTrueFalse";
+    private static final int LET_NAME = 1;
+    private static final int OF_NAME = 4;
+    private static final int MAIN_NAME = 5;
     private static final int TRUE_MAKER = 1;
     private static final int FALSE_MAKER = 2;
 
@@ -29,7 +30,7 @@ public final class LazyHouse {
     private static final int TOKEN_NAME = 2;
     private static final int TOKEN_MAKER = 3;
     private static final int TOKEN_NUMBER = 4;
-    private static final int TOKEN_LET = 5;
+    private static final int TOKEN_LET = 5; // these four in the order of their numbers as names
     private static final int TOKEN_IN = 6;
     private static final int TOKEN_CASE = 7;
     private static final int TOKEN_OF = 8;
@@ -42,10 +43,9 @@ public final class LazyHouse {
     private static final int NAME_VARIABLE = 2;
     private static final int NAME_DEFINITION = 3;
 
-    private static final int DEFINITION_NAME = 0;
-    private static final int DEFINITION_VARIABLES = 1;
-    private static final int DEFINITION_LENGTH = 2;
-    private static final int DEFINITION_BODY = 3;
+    private static final int DEFINITION_VARIABLES = 0;
+    private static final int DEFINITION_LENGTH = 1;
+    private static final int DEFINITION_BODY = 2;
 
     private static final int SCOPE_FROM = 0;
     private static final int SCOPE_TO = 1;
@@ -74,8 +74,9 @@ public final class LazyHouse {
     private static final int FREE_AT = 11;
     private static final int FREE_LENGTH = 12;
     private static final int FORM = 13;
-    private static final int COST = 14;
-    private static final int NODE_WIDTH = 15;
+    private static final int OBJECT_COST = 14;
+    private static final int FRAME_COST = 15;
+    private static final int NODE_WIDTH = 16;
 
     // Kinds of nodes. Of each, what its VALUE, BODY and LIST are stands behind it.
     private static final int NODE_NAME = 1; // use, none, none; becomes one of the next two
@@ -254,7 +255,7 @@ public final class LazyHouse {
         private boolean over;
 
         Bytes(int limit) {
-            row = new byte[Math.max(0, limit)];
+            row = new byte[limit > 0 ? limit : 0];
             length = 0;
             over = false;
         }
@@ -329,7 +330,7 @@ public final class LazyHouse {
         private int rows;
 
         Table(int width) {
-            this.width = Math.max(1, width);
+            this.width = width > 0 && width <= NODE_WIDTH ? width : 1;
             cells = new int[this.width * 8];
             rows = 1;
         }
@@ -348,13 +349,17 @@ public final class LazyHouse {
         int add() {
             int from = rows * width;
             int to = from + width;
-            if (to > ROW_LIMIT) {
+            if (from < 0 || to > ROW_LIMIT) {
                 return 0;
             }
             if (to > cells.length) {
-                cells = Arrays.copyOf(cells, Math.max(to, cells.length * 2));
+                int[] longer = new int[to * 2];
+                for (int i = 0; i < cells.length && i < longer.length; i++) {
+                    longer[i] = cells[i];
+                }
+                cells = longer;
             }
-            for (int i = from; i < to; i++) {
+            for (int i = from; i < to && i < cells.length; i++) {
                 cells[i] = 0;
             }
             rows++;
@@ -362,17 +367,19 @@ public final class LazyHouse {
         }
 
         int get(int row, int field) {
-            if (row < 0 || row >= rows || field < 0 || field >= width) {
+            int i = row * width + field;
+            if (row < 0 || row >= rows || field < 0 || field >= width || i < 0 || i >= cells.length) {
                 return 0;
             }
-            return cells[row * width + field];
+            return cells[i];
         }
 
         void set(int row, int field, int value) {
-            if (row < 1 || row >= rows || field < 0 || field >= width) {
+            int i = row * width + field;
+            if (row < 1 || row >= rows || field < 0 || field >= width || i < 0 || i >= cells.length) {
                 return;
             }
-            cells[row * width + field] = value;
+            cells[i] = value;
         }
     }
 
@@ -400,9 +407,14 @@ public final class LazyHouse {
         }
 
         void fit(int n) {
-            if (n > row.length && n <= ROW_LIMIT) {
-                row = Arrays.copyOf(row, Math.max(n, row.length * 2));
+            if (n <= row.length || n > ROW_LIMIT) {
+                return;
             }
+            long[] longer = new long[n * 2];
+            for (int i = 0; i < row.length && i < longer.length; i++) {
+                longer[i] = row[i];
+            }
+            row = longer;
         }
 
         long get(int i) {
@@ -428,33 +440,35 @@ public final class LazyHouse {
         private final Table uses;
         private final Table nodes;
         private final Table frees;
-        private int mainDefinition;
         private int stamp;
 
         Program() {
-            letters = new Bytes(TAPE_LIMIT + TRUE_LETTERS.length() + FALSE_LETTERS.length());
+            letters = new Bytes(TAPE_LIMIT + KNOWN_LETTERS.length());
             length = 0;
             names = new Table(4);
             makers = new Table(2);
-            definitions = new Table(4);
+            definitions = new Table(3);
             scopes = new Table(2);
             variables = new Table(3);
             uses = new Table(4);
             nodes = new Table(NODE_WIDTH);
             frees = new Table(1);
-            mainDefinition = 0;
             stamp = 0;
         }
 
-        /** Takes the tape's bytes. True and False are spelled behind them, so that all makers are found alike. */
+        /** Takes the tape's bytes. What every program knows is spelled behind them, so that all is found alike. */
         void load(Bytes tape) {
             clear();
             length = tape.length();
             letters.addPiece(tape, 0, length);
-            letters.addLetters(TRUE_LETTERS);
-            letters.addLetters(FALSE_LETTERS);
-            spelled(makers, length, TRUE_LETTERS.length());
-            spelled(makers, length + TRUE_LETTERS.length(), FALSE_LETTERS.length());
+            letters.addLetters(KNOWN_LETTERS);
+            spelled(names, length, 3);
+            spelled(names, length + 3, 2);
+            spelled(names, length + 5, 4);
+            spelled(names, length + 9, 2);
+            spelled(names, length + 11, 4);
+            spelled(makers, length + 15, 4);
+            spelled(makers, length + 19, 5);
         }
 
         private void clear() {
@@ -467,18 +481,18 @@ public final class LazyHouse {
             uses.cut(1);
             nodes.cut(1);
             frees.cut(1);
-            mainDefinition = 0;
             stamp = 0;
-        }
-
-        int byteAt(int place) {
-            return place < length ? letters.at(place) : -1;
         }
 
         /** Answers the row of names or makers that is spelled like this; a new one if there was none. */
         int spelled(Table table, int place, int many) {
             for (int row = 1; row < table.rows(); row++) {
-                if (table.get(row, SPELLED_LENGTH) == many && areSame(table.get(row, SPELLED_AT), place, many)) {
+                int other = table.get(row, SPELLED_AT);
+                int same = table.get(row, SPELLED_LENGTH) == many ? 0 : many + 1;
+                while (same < many && letters.at(other + same) == letters.at(place + same)) {
+                    same++;
+                }
+                if (same == many) {
                     return row;
                 }
             }
@@ -486,27 +500,6 @@ public final class LazyHouse {
             table.set(row, SPELLED_AT, place);
             table.set(row, SPELLED_LENGTH, many);
             return row;
-        }
-
-        private boolean areSame(int one, int other, int many) {
-            for (int i = 0; i < many; i++) {
-                if (letters.at(one + i) != letters.at(other + i)) {
-                    return false;
-                }
-            }
-            return true;
-        }
-
-        boolean isSpelled(int place, int many, String wanted) {
-            if (many != wanted.length()) {
-                return false;
-            }
-            for (int i = 0; i < many && i < wanted.length(); i++) {
-                if (letters.at(place + i) != wanted.charAt(i)) {
-                    return false;
-                }
-            }
-            return true;
         }
 
         /** Lists the variables that are free in a node, once for each node. */
@@ -534,10 +527,11 @@ public final class LazyHouse {
         void forget(int node) {
             frees.cut(nodes.get(node, FREE_AT));
             nodes.set(node, FREE_AT, 0);
+            nodes.set(node, FREE_LENGTH, 0);
         }
 
-        int freeVariable(int node, int i) {
-            return frees.get(nodes.get(node, FREE_AT) + i, 0);
+        int mainDefinition() {
+            return names.get(MAIN_NAME, NAME_DEFINITION);
         }
 
         boolean hasParameters(int definition) {
@@ -548,27 +542,27 @@ public final class LazyHouse {
     /** Cuts the tape into words. When a word was refused there are none any more but bad ones. */
     private static final class Reader {
         private final Program program;
+        private final Bytes letters;
         private int at;
         private int kind;
         private int place;
-        private int number;
+        private int value;
         private int refused;
 
         Reader(Program program) {
             this.program = program;
-            begin();
-        }
-
-        private void begin() {
+            letters = program.letters;
             at = 0;
             kind = TOKEN_END;
             place = 0;
-            number = 0;
+            value = 0;
             refused = -1;
         }
 
+        /** Goes to the first word. */
         void rewind() {
-            begin();
+            at = 0;
+            refused = -1;
             advance();
         }
 
@@ -580,8 +574,9 @@ public final class LazyHouse {
             return place;
         }
 
-        int number() {
-            return number;
+        /** What a NUMBER is; which one a NAME or a MAKER is. */
+        int value() {
+            return value;
         }
 
         /** Where the first word that was refused stands, or -1. */
@@ -596,67 +591,50 @@ public final class LazyHouse {
             }
         }
 
-        /** The row of the name or maker that the word is. */
-        int spelled(Table table) {
-            return program.spelled(table, place, at - place);
-        }
-
         void advance() {
             if (refused >= 0) {
                 return;
             }
-            while (at < program.length && isBlank(program.byteAt(at))) {
+            while (at < program.length && isBlank(letters.at(at))) {
                 at++;
             }
             place = at;
-            int first = program.byteAt(at);
-            if (first < 0) {
+            int first = letters.at(at);
+            if (at >= program.length) {
                 kind = TOKEN_END;
             } else if (isDigit(first)) {
                 readNumber();
             } else if (isCapital(first)) {
                 skipLetters();
+                value = program.spelled(program.makers, place, at - place);
                 kind = TOKEN_MAKER;
             } else if (isSmall(first)) {
                 skipLetters();
-                kind = kindOfName();
+                value = program.spelled(program.names, place, at - place);
+                kind = value >= LET_NAME && value <= OF_NAME ? TOKEN_LET + value - LET_NAME : TOKEN_NAME;
             } else {
                 readSign(first);
             }
         }
 
         private void readNumber() {
-            number = 0;
-            while (at < program.length && isDigit(program.byteAt(at))) {
-                number = number * 10 + program.byteAt(at) - '0';
+            value = 0;
+            while (at < program.length && isDigit(letters.at(at))) {
+                value = value * 10 + letters.at(at) - '0';
                 at++;
             }
             kind = at - place > DIGITS_LIMIT ? TOKEN_BAD : TOKEN_NUMBER;
         }
 
         private void skipLetters() {
-            while (at < program.length && isLetterOrDigit(program.byteAt(at))) {
+            while (at < program.length && isLetterOrDigit(letters.at(at))) {
                 at++;
             }
         }
 
-        private int kindOfName() {
-            int many = at - place;
-            if (program.isSpelled(place, many, "let")) {
-                return TOKEN_LET;
-            }
-            if (program.isSpelled(place, many, "in")) {
-                return TOKEN_IN;
-            }
-            if (program.isSpelled(place, many, "case")) {
-                return TOKEN_CASE;
-            }
-            return program.isSpelled(place, many, "of") ? TOKEN_OF : TOKEN_NAME;
-        }
-
         private void readSign(int first) {
             at++;
-            int second = program.byteAt(at);
+            int second = at < program.length ? letters.at(at) : -1;
             if (first == '-' && second == '>') {
                 at++;
                 kind = TOKEN_ARROW;
@@ -706,7 +684,7 @@ public final class LazyHouse {
         }
 
         private static boolean isLetterOrDigit(int b) {
-            return isSmall(b) || isCapital(b) || isDigit(b);
+            return b >= 'a' && b <= 'z' || b >= 'A' && b <= 'Z' || b >= '0' && b <= '9';
         }
     }
 
@@ -724,9 +702,17 @@ public final class LazyHouse {
 
         /** Answers the place where the text is WRONG, or -1. */
         int parse() {
+            Table definitions = program.definitions;
             reader.rewind();
             for (int i = 0; i < LOOP_LIMIT; i++) {
-                readDefinition();
+                int definition = openDefinition();
+                int scope = openScope();
+                definitions.set(definition, DEFINITION_VARIABLES, program.variables.rows());
+                definitions.set(definition, DEFINITION_LENGTH, readNames(scope));
+                expect('=');
+                definitions.set(definition, DEFINITION_BODY, readExpression(0));
+                closeScope(scope);
+                expect(';');
                 if (reader.refused() >= 0 || reader.kind() == TOKEN_END) {
                     break;
                 }
@@ -734,28 +720,16 @@ public final class LazyHouse {
             return reader.refused();
         }
 
-        private void readDefinition() {
-            Table definitions = program.definitions;
-            if (reader.kind() != TOKEN_NAME) {
+        private int openDefinition() {
+            int name = reader.value();
+            if (reader.kind() != TOKEN_NAME || program.names.get(name, NAME_DEFINITION) != 0) {
                 reader.refuse();
-                return;
+                return 0;
             }
-            int name = reader.spelled(program.names);
-            if (program.names.get(name, NAME_DEFINITION) != 0) {
-                reader.refuse();
-                return;
-            }
-            int definition = definitions.add();
+            int definition = program.definitions.add();
             program.names.set(name, NAME_DEFINITION, definition);
-            definitions.set(definition, DEFINITION_NAME, name);
             reader.advance();
-            int scope = openScope();
-            definitions.set(definition, DEFINITION_VARIABLES, program.variables.rows());
-            definitions.set(definition, DEFINITION_LENGTH, readNames(scope));
-            expect('=');
-            definitions.set(definition, DEFINITION_BODY, readExpression(0));
-            closeScope(scope);
-            expect(';');
+            return definition;
         }
 
         private int readExpression(int depth) {
@@ -852,12 +826,12 @@ public final class LazyHouse {
             switch (reader.kind()) {
                 case TOKEN_NUMBER:
                     nodes.set(node, KIND, NODE_FOR_NUMBER);
-                    nodes.set(node, VALUE, reader.number());
+                    nodes.set(node, VALUE, reader.value());
                     reader.advance();
                     break;
                 case TOKEN_MAKER:
                     nodes.set(node, KIND, NODE_FOR_MAKER);
-                    nodes.set(node, VALUE, reader.spelled(program.makers));
+                    nodes.set(node, VALUE, reader.value());
                     reader.advance();
                     nodes.set(node, LENGTH, readNames(scope));
                     break;
@@ -972,11 +946,11 @@ public final class LazyHouse {
             int node = openNode(NODE_NUMBER);
             switch (reader.kind()) {
                 case TOKEN_NUMBER:
-                    nodes.set(node, VALUE, reader.number());
+                    nodes.set(node, VALUE, reader.value());
                     break;
                 case TOKEN_MAKER:
                     nodes.set(node, KIND, NODE_MAKER);
-                    nodes.set(node, VALUE, reader.spelled(program.makers));
+                    nodes.set(node, VALUE, reader.value());
                     break;
                 case TOKEN_NAME:
                     nodes.set(node, KIND, NODE_NAME);
@@ -992,7 +966,7 @@ public final class LazyHouse {
 
         private void addUse(int node) {
             int use = program.uses.add();
-            program.uses.set(use, USE_NAME, reader.spelled(program.names));
+            program.uses.set(use, USE_NAME, reader.value());
             program.uses.set(use, USE_PLACE, reader.place());
             program.uses.set(use, USE_NODE, node);
         }
@@ -1028,7 +1002,7 @@ public final class LazyHouse {
                 return 0;
             }
             Table variables = program.variables;
-            int name = reader.spelled(program.names);
+            int name = reader.value();
             int before = program.names.get(name, NAME_VARIABLE);
             if (isIn(scope, before)) {
                 reader.refuse();
@@ -1111,8 +1085,7 @@ public final class LazyHouse {
                     return program.uses.get(use, USE_PLACE);
                 }
             }
-            program.mainDefinition = findMain();
-            if (program.mainDefinition == 0 || program.hasParameters(program.mainDefinition)) {
+            if (program.mainDefinition() == 0 || program.hasParameters(program.mainDefinition())) {
                 return program.length;
             }
             for (int node = 1; node < nodes.rows(); node++) {
@@ -1155,33 +1128,27 @@ public final class LazyHouse {
             return found;
         }
 
-        private int findMain() {
-            for (int definition = 1; definition < program.definitions.rows(); definition++) {
-                int name = program.definitions.get(definition, DEFINITION_NAME);
-                int place = program.names.get(name, SPELLED_AT);
-                if (program.isSpelled(place, program.names.get(name, SPELLED_LENGTH), "main")) {
-                    return definition;
-                }
-            }
-            return 0;
-        }
-
         private void prepare(int node) {
+            int list = nodes.get(node, LIST);
             switch (nodes.get(node, KIND)) {
                 case NODE_LAMBDA:
-                    program.gather(node);
-                    nodes.set(node, COST, OBJECT_CELLS + nodes.get(node, FREE_LENGTH));
+                    nodes.set(node, FORM, FORM_FUNCTION);
+                    nodes.set(node, OBJECT_COST, cellsOf(node));
                     break;
                 case NODE_DATUM:
-                    nodes.set(node, COST, OBJECT_CELLS + nodes.get(node, LENGTH) + prepareList(node));
+                    nodes.set(node, OBJECT_COST, OBJECT_CELLS + nodes.get(node, LENGTH) + prepareList(node));
                     break;
                 case NODE_CALL:
+                    nodes.set(node, OBJECT_COST, prepareList(node));
+                    nodes.set(node, FRAME_COST, FRAME_CELLS + nodes.get(node, LENGTH));
+                    break;
                 case NODE_LET:
-                    nodes.set(node, COST, prepareList(node));
+                    nodes.set(node, OBJECT_COST, prepareList(node));
                     break;
                 case NODE_CASE:
                 case NODE_SIGN:
-                    program.gather(nodes.get(node, LIST));
+                    program.gather(list);
+                    nodes.set(node, FRAME_COST, FRAME_CELLS + nodes.get(list, FREE_LENGTH));
                     break;
                 default:
                     break;
@@ -1294,10 +1261,6 @@ public final class LazyHouse {
             return ((long) about << 32) | ((long) slots << 8) | kind;
         }
 
-        int kind(int place) {
-            return (int) (cells.get(place) & 255);
-        }
-
         /** The node of a DELAY or a FUNCTION, the maker of a DATUM. */
         int about(int place) {
             return (int) (cells.get(place) >> 32);
@@ -1319,8 +1282,9 @@ public final class LazyHouse {
             cells.set(place + OBJECT_CELLS + i, word);
         }
 
+        /** What kind of object the word is the place of; OBJECT_NONE if it is none. */
         int kindOf(long word) {
-            return Word.tag(word) == WORD_OBJECT ? kind(Word.value(word)) : OBJECT_NONE;
+            return Word.tag(word) == WORD_OBJECT ? (int) (cells.get(Word.value(word)) & 255) : OBJECT_NONE;
         }
 
         void makeBusy(int place) {
@@ -1346,25 +1310,17 @@ public final class LazyHouse {
 
         /** Moves the object, if it has not moved yet; answers the word that stands for this one now. */
         long keep(long word) {
-            if (Word.tag(word) != WORD_OBJECT) {
-                return word;
+            long kept = word;
+            // Twice at most: no DELAY is ever DONE by a DELAY.
+            for (int i = 0; i < 2 && Word.tag(kept) == WORD_OBJECT; i++) {
+                int place = Word.value(kept);
+                int kind = (int) (spare.get(place) & 255);
+                if (kind != OBJECT_DONE) {
+                    return kind == OBJECT_MOVED ? spare.get(place + 1) : move(place);
+                }
+                kept = spare.get(place + 1);
             }
-            int place = Word.value(word);
-            int kind = (int) (spare.get(place) & 255);
-            if (kind == OBJECT_DONE) {
-                // No DELAY is ever done by a DELAY, so this goes one level deep.
-                return keepDone(spare.get(place + 1));
-            }
-            return kind == OBJECT_MOVED ? spare.get(place + 1) : move(place);
-        }
-
-        private long keepDone(long word) {
-            if (Word.tag(word) != WORD_OBJECT) {
-                return word;
-            }
-            int place = Word.value(word);
-            boolean moved = (spare.get(place) & 255) == OBJECT_MOVED;
-            return moved ? spare.get(place + 1) : move(place);
+            return kept;
         }
 
         private long move(int from) {
@@ -1381,12 +1337,13 @@ public final class LazyHouse {
             return moved;
         }
 
+        /** Keeps what the objects have that were kept. Every object is two cells at least, so this ends. */
         void finishMove() {
             int place = 0;
-            while (place < used) {
-                int slots = slots(place);
-                for (int i = 0; i < slots; i++) {
-                    setSlot(place, i, keep(slot(place, i)));
+            for (int i = 0; i < LOOP_LIMIT && place < used; i++) {
+                int slots = slotsOf(cells.get(place));
+                for (int j = 0; j < slots; j++) {
+                    cells.set(place + OBJECT_CELLS + j, keep(cells.get(place + OBJECT_CELLS + j)));
                 }
                 place += OBJECT_CELLS + slots;
             }
@@ -1398,16 +1355,17 @@ public final class LazyHouse {
         private final Words cells;
         private int used;
         private int frames;
+        private int first;
 
         Stack() {
             cells = new Words();
-            used = 0;
-            frames = 0;
+            clear();
         }
 
         void clear() {
             used = 0;
             frames = 0;
+            first = 0;
         }
 
         int used() {
@@ -1418,15 +1376,12 @@ public final class LazyHouse {
             return frames;
         }
 
+        /** What describes a frame stands there as numbers, so that all cells can be kept alike. */
         void push(int kind, int about, int slots) {
+            first = used;
             used += slots + FRAME_CELLS;
             frames++;
             cells.fit(used);
-            describe(kind, about, slots);
-        }
-
-        /** What describes a frame stands there as numbers, so that all cells can be kept alike. */
-        private void describe(int kind, int about, int slots) {
             cells.set(used - 2, Word.of(WORD_NUMBER, about));
             cells.set(used - 1, Word.of(WORD_NUMBER, slots << 8 | kind));
         }
@@ -1440,35 +1395,37 @@ public final class LazyHouse {
         }
 
         int slots() {
-            return used < FRAME_CELLS ? 0 : Word.value(cells.get(used - 1)) >> 8;
+            return used < FRAME_CELLS ? 0 : used - FRAME_CELLS - first;
         }
 
         long slot(int i) {
-            return cells.get(used - FRAME_CELLS - slots() + i);
+            return cells.get(first + i);
         }
 
         void setSlot(int i, long word) {
-            cells.set(used - FRAME_CELLS - slots() + i, word);
+            cells.set(first + i, word);
         }
 
         void pop() {
             if (used < FRAME_CELLS) {
                 return;
             }
-            used -= FRAME_CELLS + slots();
+            used = first;
             frames--;
+            first = used < FRAME_CELLS ? 0 : used - FRAME_CELLS - (Word.value(cells.get(used - 1)) >> 8);
         }
 
         /** The latest frame keeps the last ones of its words alone. */
         void keepLast(int many) {
+            int from = first + slots() - many;
             int kind = kind();
             int about = about();
-            int gone = slots() - many;
+            used = first;
+            frames--;
             for (int i = 0; i < many; i++) {
-                setSlot(i, slot(i + gone));
+                cells.set(first + i, cells.get(from + i));
             }
-            used -= gone;
-            describe(kind, about, many);
+            push(kind, about, many);
         }
 
         void keepAll(Heap heap) {
@@ -1482,6 +1439,7 @@ public final class LazyHouse {
     private static final class Machine {
         private final Program program;
         private final Table nodes;
+        private final Table frees;
         private final Heap heap;
         private final Stack stack;
         private final Bytes shown;
@@ -1497,6 +1455,7 @@ public final class LazyHouse {
         Machine(Program program) {
             this.program = program;
             nodes = program.nodes;
+            frees = program.frees;
             heap = new Heap();
             stack = new Stack();
             shown = new Bytes(TEXT_LIMIT);
@@ -1563,13 +1522,16 @@ public final class LazyHouse {
                 globals.set(i, Word.of(WORD_FRESH, 0));
             }
             stack.push(FRAME_SHOW, 0, 0);
-            enterNext(Word.of(WORD_DEFINITION, program.mainDefinition));
+            enterNext(Word.of(WORD_DEFINITION, program.mainDefinition()));
         }
 
         /** Does so many steps, or as many as there are; answers as step(n) does. */
         int run(int many) {
             for (int i = 0; i < many && isRunning(); i++) {
                 steps++;
+                if (!fits(frameCellsWanted(), objectCellsWanted())) {
+                    break;
+                }
                 if (mode == MODE_EVALUATE) {
                     evaluate();
                 } else if (mode == MODE_ENTER) {
@@ -1609,20 +1571,55 @@ public final class LazyHouse {
             stack.clear();
         }
 
+        /** How many cells more the frames take behind the next step. What a SHOW does is looked at behind it. */
+        private int frameCellsWanted() {
+            if (mode == MODE_EVALUATE) {
+                return nodes.get(node, FRAME_COST);
+            }
+            if (mode == MODE_ENTER) {
+                return isFresh() ? FRAME_CELLS + 1 : 0;
+            }
+            // A RIGHT has one word, and may be one cell more than the LEFT that goes.
+            boolean turns = stack.kind() == FRAME_LEFT && Word.tag(word) == WORD_NUMBER;
+            return turns ? 1 - stack.slots() : 0;
+        }
+
+        /** How many cells the next step makes. */
+        private int objectCellsWanted() {
+            if (mode == MODE_EVALUATE) {
+                return nodes.get(node, OBJECT_COST);
+            }
+            if (mode == MODE_ENTER || stack.kind() != FRAME_CALL) {
+                return 0;
+            }
+            int all = wordsHeld() + stack.slots();
+            return all < parametersOf(called()) ? OBJECT_CELLS + 1 + all : 0;
+        }
+
+        /** Is the word a DELAY that nothing was done with yet? */
+        private boolean isFresh() {
+            if (Word.tag(word) != WORD_DEFINITION) {
+                return heap.kindOf(word) == OBJECT_DELAY;
+            }
+            int definition = Word.value(word);
+            return !program.hasParameters(definition) && Word.tag(globals.get(definition)) == WORD_FRESH;
+        }
+
         /** Is there room for so many cells more of frames, and of objects? If not, the machine fails. */
         private boolean fits(int frameCells, int objectCells) {
             if (stack.used() + frameCells > FRAMES_LIMIT) {
                 fail(ERROR_FRAMES);
                 return false;
             }
-            if (!heap.hasRoom(objectCells)) {
-                collect();
+            if (heap.hasRoom(objectCells)) {
+                return true;
             }
-            if (!heap.hasRoom(objectCells)) {
-                fail(ERROR_HEAP);
-                return false;
+            collect();
+            if (heap.hasRoom(objectCells)) {
+                return true;
             }
-            return true;
+            fail(ERROR_HEAP);
+            return false;
         }
 
         private void collect() {
@@ -1644,8 +1641,9 @@ public final class LazyHouse {
         private void keepEnvironment() {
             boolean listed = nodes.get(node, FREE_AT) != 0;
             program.gather(node);
+            int at = nodes.get(node, FREE_AT);
             for (int i = 0; i < nodes.get(node, FREE_LENGTH); i++) {
-                int variable = program.freeVariable(node, i);
+                int variable = frees.get(at + i, 0);
                 environment.set(variable, heap.keep(environment.get(variable)));
             }
             if (!listed) {
@@ -1664,7 +1662,7 @@ public final class LazyHouse {
                     giveNext(simpleWord(node));
                     break;
                 case NODE_LAMBDA:
-                    evaluateLambda();
+                    giveNext(makeInPlace(node));
                     break;
                 case NODE_DATUM:
                     evaluateDatum();
@@ -1698,19 +1696,7 @@ public final class LazyHouse {
             }
         }
 
-        private void evaluateLambda() {
-            if (!fits(0, nodes.get(node, COST))) {
-                return;
-            }
-            int place = heap.make(OBJECT_FUNCTION, node, nodes.get(node, FREE_LENGTH));
-            capture(place, node);
-            giveNext(Word.of(WORD_OBJECT, place));
-        }
-
         private void evaluateDatum() {
-            if (!fits(0, nodes.get(node, COST))) {
-                return;
-            }
             int many = nodes.get(node, LENGTH);
             int place = heap.make(OBJECT_DATUM, nodes.get(node, VALUE), many);
             int field = nodes.get(node, LIST);
@@ -1723,9 +1709,6 @@ public final class LazyHouse {
 
         private void evaluateCall() {
             int many = nodes.get(node, LENGTH);
-            if (!fits(FRAME_CELLS + many, nodes.get(node, COST))) {
-                return;
-            }
             stack.push(FRAME_CALL, 0, many);
             int argument = nodes.get(node, LIST);
             for (int i = 0; i < many; i++) {
@@ -1737,9 +1720,6 @@ public final class LazyHouse {
 
         /** All objects are there before any is filled, because each may have the places of all. */
         private void evaluateLet() {
-            if (!fits(0, nodes.get(node, COST))) {
-                return;
-            }
             int many = nodes.get(node, LENGTH);
             int bind = nodes.get(node, LIST);
             for (int i = 0; i < many; i++) {
@@ -1758,12 +1738,10 @@ public final class LazyHouse {
         /** A CHOICE or a LEFT comes with what is free in a node; what is evaluated first is the BODY of both. */
         private void pushCapturing(int kind, int about, int captured) {
             int many = nodes.get(captured, FREE_LENGTH);
-            if (!fits(FRAME_CELLS + many, 0)) {
-                return;
-            }
+            int at = nodes.get(captured, FREE_AT);
             stack.push(kind, about, many);
             for (int i = 0; i < many; i++) {
-                stack.setSlot(i, environment.get(program.freeVariable(captured, i)));
+                stack.setSlot(i, environment.get(frees.get(at + i, 0)));
             }
             evaluateNext(nodes.get(node, BODY));
         }
@@ -1788,34 +1766,34 @@ public final class LazyHouse {
             }
         }
 
+        /** A DATUM gets its fields' words, another object those of what is free in it. */
         private void fill(int place, int expression) {
-            if (nodes.get(expression, FORM) != FORM_DATUM) {
-                capture(place, expression);
+            if (nodes.get(expression, FORM) == FORM_DATUM) {
+                int field = nodes.get(expression, LIST);
+                for (int i = 0; i < nodes.get(expression, LENGTH); i++) {
+                    heap.setSlot(place, i, simpleWord(field));
+                    field = nodes.get(field, NEXT);
+                }
                 return;
             }
-            int field = nodes.get(expression, LIST);
-            for (int i = 0; i < nodes.get(expression, LENGTH); i++) {
-                heap.setSlot(place, i, simpleWord(field));
-                field = nodes.get(field, NEXT);
-            }
-        }
-
-        private void capture(int place, int expression) {
+            int at = nodes.get(expression, FREE_AT);
             for (int i = 0; i < nodes.get(expression, FREE_LENGTH); i++) {
-                heap.setSlot(place, i, environment.get(program.freeVariable(expression, i)));
+                heap.setSlot(place, i, environment.get(frees.get(at + i, 0)));
             }
         }
 
         /** The words that an object captured are those of the environment again. */
         private void release(int place, int expression) {
+            int at = nodes.get(expression, FREE_AT);
             for (int i = 0; i < nodes.get(expression, FREE_LENGTH); i++) {
-                environment.set(program.freeVariable(expression, i), heap.slot(place, i));
+                environment.set(frees.get(at + i, 0), heap.slot(place, i));
             }
         }
 
         private void releaseFrame(int captured) {
+            int at = nodes.get(captured, FREE_AT);
             for (int i = 0; i < nodes.get(captured, FREE_LENGTH); i++) {
-                environment.set(program.freeVariable(captured, i), stack.slot(i));
+                environment.set(frees.get(at + i, 0), stack.slot(i));
             }
         }
 
@@ -1833,12 +1811,10 @@ public final class LazyHouse {
                     giveNext(heap.doneBy(place));
                     break;
                 case OBJECT_DELAY:
-                    if (workOn()) {
-                        int expression = heap.about(place);
-                        release(place, expression);
-                        heap.makeBusy(place);
-                        evaluateNext(expression);
-                    }
+                    pushUpdate();
+                    release(place, heap.about(place));
+                    evaluateNext(heap.about(place));
+                    heap.makeBusy(place);
                     break;
                 default:
                     giveNext(word);
@@ -1857,10 +1833,9 @@ public final class LazyHouse {
                     fail(ERROR_BUSY);
                     break;
                 case WORD_FRESH:
-                    if (workOn()) {
-                        globals.set(definition, Word.of(WORD_BUSY, 0));
-                        evaluateNext(program.definitions.get(definition, DEFINITION_BODY));
-                    }
+                    pushUpdate();
+                    globals.set(definition, Word.of(WORD_BUSY, 0));
+                    evaluateNext(program.definitions.get(definition, DEFINITION_BODY));
                     break;
                 default:
                     giveNext(state);
@@ -1868,15 +1843,10 @@ public final class LazyHouse {
             }
         }
 
-        /** An UPDATE comes for the DELAY that the word is, if there is room for it. */
-        private boolean workOn() {
-            if (!fits(FRAME_CELLS + 1, 0)) {
-                return false;
-            }
+        private void pushUpdate() {
             stack.push(FRAME_UPDATE, 0, 1);
             stack.setSlot(0, word);
             worked++;
-            return true;
         }
 
         private void give() {
@@ -1935,9 +1905,12 @@ public final class LazyHouse {
         }
 
         private int findAlternative(int choices) {
+            boolean datum = heap.kindOf(word) == OBJECT_DATUM;
+            int fields = datum ? heap.slots(Word.value(word)) : 0;
+            long maker = datum ? Word.of(WORD_MAKER, heap.about(Word.value(word))) : word;
             int alternative = nodes.get(choices, LIST);
             for (int i = 0; i < nodes.get(choices, LENGTH); i++) {
-                if (isFor(alternative)) {
+                if (isFor(alternative, maker, fields)) {
                     return alternative;
                 }
                 alternative = nodes.get(alternative, NEXT);
@@ -1945,24 +1918,17 @@ public final class LazyHouse {
             return 0;
         }
 
-        private boolean isFor(int alternative) {
+        /** Is the alternative for such a number, or for such a maker with so many fields? */
+        private boolean isFor(int alternative, long wanted, int fields) {
             int value = nodes.get(alternative, VALUE);
             switch (nodes.get(alternative, KIND)) {
                 case NODE_FOR_ANY:
                     return true;
                 case NODE_FOR_NUMBER:
-                    return word == Word.of(WORD_NUMBER, value);
+                    return wanted == Word.of(WORD_NUMBER, value);
                 default:
-                    return isMadeBy(value, nodes.get(alternative, LENGTH));
+                    return wanted == Word.of(WORD_MAKER, value) && fields == nodes.get(alternative, LENGTH);
             }
-        }
-
-        private boolean isMadeBy(int maker, int fields) {
-            if (heap.kindOf(word) != OBJECT_DATUM) {
-                return fields == 0 && word == Word.of(WORD_MAKER, maker);
-            }
-            int place = Word.value(word);
-            return heap.about(place) == maker && heap.slots(place) == fields;
         }
 
         private void giveToLeft() {
@@ -1972,10 +1938,6 @@ public final class LazyHouse {
             }
             int sign = stack.about();
             int right = nodes.get(sign, LIST);
-            // A RIGHT may be one cell more than the LEFT that goes.
-            if (!fits(1 - stack.slots(), 0)) {
-                return;
-            }
             releaseFrame(right);
             stack.pop();
             stack.push(FRAME_RIGHT, nodes.get(sign, VALUE), 1);
@@ -2025,25 +1987,33 @@ public final class LazyHouse {
         }
 
         private void giveToCall() {
-            boolean part = heap.kindOf(word) == OBJECT_PART;
-            long called = part ? heap.slot(Word.value(word), 0) : word;
-            int wanted = parametersOf(called);
+            int wanted = parametersOf(called());
             if (wanted == 0) {
                 fail(ERROR_NO_FUNCTION);
                 return;
             }
-            int held = part ? heap.slots(Word.value(word)) - 1 : 0;
+            int held = wordsHeld();
             int others = held + stack.slots() - wanted;
             if (others < 0) {
                 makePart(held, held + stack.slots());
                 return;
             }
-            bindParameters(called, wanted, held);
+            bindParameters(called(), wanted, held);
             if (others > 0) {
                 stack.keepLast(others);
             } else {
                 stack.pop();
             }
+        }
+
+        /** What the word calls: of a PART what it is a part of. */
+        private long called() {
+            return heap.kindOf(word) == OBJECT_PART ? heap.slot(Word.value(word), 0) : word;
+        }
+
+        /** How many words the word has as a PART. */
+        private int wordsHeld() {
+            return heap.kindOf(word) == OBJECT_PART ? heap.slots(Word.value(word)) - 1 : 0;
         }
 
         /** How many words it takes; 0 if it can't be called. */
@@ -2055,14 +2025,8 @@ public final class LazyHouse {
         }
 
         private void makePart(int held, int all) {
-            if (!fits(-FRAME_CELLS - stack.slots(), OBJECT_CELLS + 1 + all)) {
-                return;
-            }
-            // Only now, because the word may have moved.
-            boolean part = heap.kindOf(word) == OBJECT_PART;
-            long called = part ? heap.slot(Word.value(word), 0) : word;
             int place = heap.make(OBJECT_PART, 0, 1 + all);
-            heap.setSlot(place, 0, called);
+            heap.setSlot(place, 0, called());
             for (int i = 0; i < all; i++) {
                 heap.setSlot(place, 1 + i, argument(held, i));
             }
