@@ -54,7 +54,7 @@ public final class ModelTests {
             int chunk = random.nextInt(4) == 0 ? random.nextInt(5) : random.nextInt(1500);
             int answer = 0;
             for (int i = 0; i < 8 && answer == 0; i++) {
-                int steps = i < 6 ? chunk : 1000;
+                int steps = i < 6 ? chunk : i == 7 && text.contains("deeper") ? 20000 : 1000;
                 answer = model.step(steps);
                 if (!same(text, heap, house, model, house.step(steps), answer)) {
                     return;
@@ -977,7 +977,22 @@ public final class ModelTests {
             return all[random.nextInt(all.length)];
         }
 
+        /** A program whose frames come to their limit, in steps of several sizes, from several beginnings. */
+        private String deep() {
+            String body = pick("case deeper a b x of { z -> T a b }", "deeper a b x + a", "deeper a b x * (a - b)", "1 + deeper a b x",
+                "deeper a b x 1", "let y = deeper a b y in y + 1", "case x of { N -> 1; z -> a * (b + deeper a b 1) }",
+                "let go y = case go y of { z -> T a b x } in go x", "let go y = go y - (a + b + x) in go x",
+                "let go y = 2 * go (y + a) in go b");
+            String thunks = "deeper n y = case n of { 0 -> y; m -> deeper (n - 1) (y " + pick("+ 0", "* n", "- n * n") + ") };";
+            String called = chance(3) ? thunks + " main = (deeper " + (400 + random.nextInt(800)) + " 1)"
+                : "deeper a b x = " + body + "; main = (deeper 1 2 3)";
+            return called + " 1".repeat(random.nextInt(8)) + ";";
+        }
+
         String text() {
+            if (chance(25)) {
+                return deep();
+            }
             for (int tries = 0; tries < 1000; tries++) {
                 String text = program();
                 if (chance(4)) {

@@ -210,7 +210,35 @@ public final class PromiseTests {
         due("the tape is empty", house.count(6), 0);
         due("no machine", house.step(1), -1);
         due("no program", house.start(), 0);
-        due("nothing of the one before", read(house, "main = f;"), -8);
+        due("nothing of the one before", read(house, "f = 1; main = f + g;"), -19);
+        due("a good one behind a WRONG one", read(house, "main = 1;"), 1);
+        due("which can start", house.start(), 1);
+        programOfAllBytes();
+        programOfManyDefinitions();
+    }
+
+    /** A tape of 2000 bytes is a program like others. */
+    private static void programOfAllBytes() {
+        String text = "main = G " + many("(f 1) ", 100) + "f " + many("12345 ", 229) + "La; f x = True;";
+        due("bytes", text.length(), 2000);
+        LazyHouse house = begun(text, 20000);
+        due("all bytes", house.step(20000), 18);
+        due("fields", house.count(1), 2 + 331 + 200);
+        dueProgram(text.substring(0, 1999) + " ", -2001);
+        dueProgram(text.substring(0, 1999) + "$", -2000);
+        dueShown(many(" ", 1986) + "main = 6 == 7;", "False");
+        dueShown(many("\n", 1992) + "main=Ab;", "Ab");
+    }
+
+    private static void programOfManyDefinitions() {
+        StringBuilder text = new StringBuilder("main = d99;d0 = 5;");
+        for (int i = 1; i < 100; i++) {
+            text.append("d" + i + " = 1 + d" + (i - 1) + ";");
+        }
+        LazyHouse house = begun(text.toString(), 10);
+        due("a hundred definitions", house.step(20000), 1);
+        dueText("a hundred definitions", shown(house), "104");
+        due("all worked on", house.count(5), 101);
     }
 
     private static void programWords() {
@@ -502,11 +530,32 @@ public final class PromiseTests {
             due("one step more", house.step(1), 17);
             due("its frames", house.count(3), 0);
         }
+        for (int words = 1; words <= 6; words++) {
+            dueEdge("case go x of { z -> T a b c d }", words);
+            dueEdge("go x + (a + b + c + d)", words);
+        }
         // A RIGHT is one cell more than a LEFT of no words: with 3 words that is the cell too much.
         due("two words", leftOrRight(2) % 100, 12);
         due("three words: no room for a RIGHT", leftOrRight(3) % 100, 17);
         due("four words: no room for a LEFT", leftOrRight(4) % 100, 17);
         due("LEFT, EVALUATE 1, RIGHT", leftOrRight(3) / 100 - leftOrRight(4) / 100, 2);
+    }
+
+    /** Each round leaves a CHOICE or a LEFT of 4 words, and a CALL of one word comes and goes in it. */
+    private static void dueEdge(String body, int words) {
+        LazyHouse house = begun("h a b c d = let go x = " + body + " in go 1; main = (h 1 2 3 4)" + many(" 1", words) + ";", 10);
+        int cells = 2 + 3 + 2 + words;
+        int steps = 11;
+        while (cells + 6 <= 3000 && cells + 9 <= 3000) {
+            cells += 6;
+            steps += 5;
+        }
+        boolean second = cells + 6 <= 3000;
+        steps += second ? 1 : 0;
+        due("rounds of " + body, house.step(steps), 0);
+        due("cells of the frames", house.count(3), second ? cells + 6 : cells);
+        due("the cell too much", house.step(1), 17);
+        due("and so many steps", house.count(0), steps + 1);
     }
 
     /** Steps times 100 and the answer of a run that leaves 2992 cells of frames and one for each word, then adds. */
