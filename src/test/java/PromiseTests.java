@@ -128,15 +128,16 @@ public final class PromiseTests {
         heapAtFirst();
     }
 
-    /** Each round leaves a DATUM of 5 cells: 400 of them fit into 2000 cells, if nothing else is there. */
+    /** 399 rounds leave a DATUM of 5 cells each; then one of 5 has room in 2000 cells, one of 6 hasn't. */
     private static void heapAtFirst() {
-        for (int n = 396; n < 404; n++) {
-            String text = "up m = m + 1; go n k = case n of { " + n + " -> case k of { Nil -> 1; z -> 2 }; "
+        for (int fields = 1; fields < 6; fields++) {
+            String text = "up m = m + 1; go n k = case n of { 399 -> case Q" + many(" 1", fields) + " of { z -> case k of { y -> 2 } }; "
                 + "m -> case up n of { p -> go p (P k 7 8) } }; main = go 0 Nil;";
             LazyHouse house = new LazyHouse();
             read(house, text);
             house.start();
-            due("a new object's heap with " + n, house.step(20000), n <= 400 ? 1 : 16);
+            due("a new object's heap with " + fields, house.step(20000), fields <= 3 ? 1 : 16);
+            due("the same heap told", begun(text, 2000).step(20000), fields <= 3 ? 1 : 16);
         }
     }
 
@@ -324,6 +325,7 @@ public final class PromiseTests {
         dueProgram("main = " + many("let x = ", 60) + "1" + many(" in 1", 60) + ";", 1);
         dueWrong("main = " + many("let x = ", 61) + "1" + many(" in 1", 61) + ";", 7 + 60 * 8);
         dueProgram("main = " + many("let x y = ", 60) + "1" + many(" in 1", 60) + ";", 1);
+        dueWrong("main = " + many("let x y = ", 61) + "1" + many(" in 1", 61) + ";", 7 + 60 * 10);
         dueProgram("main = " + many("case ", 60) + "1" + many(" of { x -> 1 }", 60) + ";", 1);
         dueWrong("main = " + many("case ", 61) + "1" + many(" of { x -> 1 }", 61) + ";", 7 + 60 * 5);
         dueProgram("main = " + many("case 1 of { x -> ", 60) + "1" + many(" }", 60) + ";", 1);
@@ -534,11 +536,50 @@ public final class PromiseTests {
             dueEdge("case go x of { z -> T a b c d }", words);
             dueEdge("go x + (a + b + c + d)", words);
         }
-        // A RIGHT is one cell more than a LEFT of no words: with 3 words that is the cell too much.
-        due("two words", leftOrRight(2) % 100, 12);
-        due("three words: no room for a RIGHT", leftOrRight(3) % 100, 17);
-        due("four words: no room for a LEFT", leftOrRight(4) % 100, 17);
-        due("LEFT, EVALUATE 1, RIGHT", leftOrRight(3) / 100 - leftOrRight(4) / 100, 2);
+        for (int words = 0; words <= 5; words++) {
+            dueEdgeOfUpdates(words);
+        }
+        dueEdgeOfLast("1 + (1 + 2)", 995, 2, 3, 2992 + 3 + 5);
+        dueEdgeOfLast("1 + (1 + d)", 994, 2, 3, 2989 + 3 + 6);
+    }
+
+    /** A chain of DELAYS is entered, each of which leaves an UPDATE and a LEFT of no words. */
+    private static void dueEdgeOfUpdates(int words) {
+        String text = "mk n y = case n of { 0 -> y; m -> mk (n - 1) (y + 0) }; main = (mk 800 1)" + many(" 1", words) + ";";
+        int cells = words == 0 ? 2 + 3 : 2 + 3 + 2 + words;
+        int updates = 0;
+        while (cells + 3 <= 3000 && cells + 5 <= 3000) {
+            cells += 5;
+            updates++;
+        }
+        boolean entered = cells + 3 <= 3000;
+        dueLastStep(text, entered ? cells + 3 : cells);
+        LazyHouse house = begun(text, 20000);
+        house.step(20000);
+        due("what was worked on: main, 800 numbers, and these", house.count(5), 1 + 800 + updates + (entered ? 1 : 0));
+    }
+
+    /** The run ends with ERROR 7, and ahead of the step that does it the frames have so many cells. */
+    private static void dueLastStep(String text, int cells) {
+        LazyHouse house = begun(text, 20000);
+        house.step(20000);
+        due("no room for the frames of [" + text + "]", house.step(20000), 17);
+        int steps = house.count(0);
+        house.start();
+        house.step(steps / 2);
+        due("one step ahead of the end", house.step(steps - steps / 2 - 1), 0);
+        due("cells one step ahead of the end", house.count(3), cells);
+        due("the end", house.step(1), 17);
+    }
+
+    /** A list is walked, each element leaving a CALL of one word: no more comes in a round than stands at its end. */
+    private static void dueEdgeOfLast(String last, int rounds, int enough, int tooMany, int cells) {
+        String text = "up m = m + 1; mk n k = case n of { " + rounds + " -> g k; m -> case up n of { p -> mk p (C k) } }; d = 2; "
+            + "g xs = case xs of { N -> " + last + "; C ys -> (g ys) 1 }; main = (mk 0 N)";
+        LazyHouse house = begun(text + many(" 1", enough) + ";", 20000);
+        house.step(20000);
+        due("just enough", house.step(20000), 12);
+        dueLastStep(text + many(" 1", tooMany) + ";", cells);
     }
 
     /** Each round leaves a CHOICE or a LEFT of 4 words, and a CALL of one word comes and goes in it. */
@@ -556,15 +597,6 @@ public final class PromiseTests {
         due("cells of the frames", house.count(3), second ? cells + 6 : cells);
         due("the cell too much", house.step(1), 17);
         due("and so many steps", house.count(0), steps + 1);
-    }
-
-    /** Steps times 100 and the answer of a run that leaves 2992 cells of frames and one for each word, then adds. */
-    private static int leftOrRight(int words) {
-        LazyHouse house = begun("up m = m + 1; mk n k = case n of { 995 -> g k; m -> case up n of { p -> mk p (C k) } }; "
-            + "g xs = case xs of { N -> 1 + (1 + 2); C ys -> (g ys) 1 }; main = (mk 0 N)" + many(" 1", words) + ";", 20000);
-        house.step(20000);
-        int answer = house.step(20000);
-        return house.count(0) * 100 + answer;
     }
 
     private static void stepMeaning() {
