@@ -13,6 +13,7 @@ import java.util.Set;
  * Arguments, if any: a seed and how many programs.
  */
 public final class ModelTests {
+    private static final int LAST_BYTES = 40;
     private static int wrong = 0;
 
     public static void main(String[] args) {
@@ -48,6 +49,10 @@ public final class ModelTests {
         }
         int[] heaps = {random.nextInt(20) + 10, random.nextInt(100) + 10, random.nextInt(400) + 10, 2000};
         for (int heap : heaps) {
+            // One object for each heap: what it answers behind 512 calls is free.
+            house = new LazyHouse();
+            put(house, text);
+            house.program();
             house.heap(heap);
             house.start();
             model.start(heap);
@@ -66,7 +71,9 @@ public final class ModelTests {
 
     private static boolean same(String text, int heap, LazyHouse house, Model model, int got, int want) {
         StringBuilder shown = new StringBuilder();
-        for (int i = 0; i < house.size(); i++) {
+        int size = house.size();
+        int from = Math.max(0, size - LAST_BYTES);
+        for (int i = from; i < size; i++) {
             shown.append((char) house.text(i));
         }
         String at = " behind step " + model.steps + ", heap " + heap;
@@ -77,7 +84,8 @@ public final class ModelTests {
         fine &= due(text, "count(3)" + at, house.count(3), model.frameCells(model.frames));
         fine &= due(text, "count(4)" + at, house.count(4), model.frames.size());
         fine &= due(text, "count(5)" + at, house.count(5), model.worked);
-        if (!shown.toString().equals(model.shown.toString())) {
+        fine &= due(text, "size()" + at, size, model.shown.length());
+        if (fine && !shown.toString().equals(model.shown.substring(from))) {
             fine = due(text, "text [" + shown + "] for [" + model.shown + "]" + at, 0, 1);
         }
         return fine;

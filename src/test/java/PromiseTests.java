@@ -1,21 +1,5 @@
 /** Goes through the ten promises one by one: ordinary inputs, the edges that the document names, wrong inputs. */
-public final class PromiseTests {
-    private static int wrong = 0;
-
-    private static void due(String what, long got, long want) {
-        if (got != want) {
-            wrong++;
-            System.out.println(what + " answered " + got + ", due is " + want);
-        }
-    }
-
-    private static void dueText(String what, String got, String want) {
-        if (!got.equals(want)) {
-            wrong++;
-            System.out.println(what + " showed " + got + ", due is " + want);
-        }
-    }
-
+public final class PromiseTests extends Due {
     public static void main(String[] args) {
         newObject();
         feed();
@@ -38,79 +22,7 @@ public final class PromiseTests {
         size();
         text();
         count();
-        if (wrong == 0) {
-            System.out.println("PromiseTests: all answers are as due");
-        }
-        System.exit(wrong == 0 ? 0 : 1);
-    }
-
-    // What the tests below are written with.
-
-    private static int four(byte[] bytes, int at) {
-        int all = 0;
-        for (int i = at; i < at + 4; i++) {
-            all = all << 8 | (i < bytes.length ? bytes[i] & 255 : 0);
-        }
-        return all;
-    }
-
-    private static void put(LazyHouse house, String text) {
-        byte[] bytes = new byte[text.length()];
-        for (int i = 0; i < bytes.length; i++) {
-            bytes[i] = (byte) text.charAt(i);
-        }
-        int kept = house.count(6);
-        for (int at = 0; at < bytes.length; at += 20) {
-            house.feed(four(bytes, at), four(bytes, at + 4), four(bytes, at + 8), four(bytes, at + 12), four(bytes, at + 16));
-        }
-        house.end(kept + bytes.length);
-    }
-
-    private static int read(LazyHouse house, String text) {
-        put(house, text);
-        return house.program();
-    }
-
-    /** What program() answers to this text on a new object. */
-    private static void dueProgram(String text, int want) {
-        due("program() of [" + text + "]", read(new LazyHouse(), text), want);
-    }
-
-    private static void dueWrong(String text, int place) {
-        dueProgram(text, -1 - place);
-    }
-
-    private static LazyHouse begun(String text, int heap) {
-        LazyHouse house = new LazyHouse();
-        due("program() of [" + text + "]", read(house, text) > 0 ? 1 : 0, 1);
-        due("heap(" + heap + ")", house.heap(heap), 1);
-        due("start()", house.start(), 1);
-        return house;
-    }
-
-    private static String shown(LazyHouse house) {
-        StringBuilder all = new StringBuilder();
-        for (int i = 0; i < house.size(); i++) {
-            all.append((char) house.text(i));
-        }
-        return all.toString();
-    }
-
-    /** Runs the text to its end in a heap of 2000; it must show this. */
-    private static void dueShown(String text, String want) {
-        LazyHouse house = begun(text, 2000);
-        due("step(20000) of [" + text + "]", house.step(20000), 1);
-        dueText("[" + text + "]", shown(house), want);
-    }
-
-    private static void dueEnd(String text, int heap, int answer, int steps) {
-        LazyHouse house = begun(text, heap);
-        due("step(20000) of [" + text + "]", house.step(20000), answer);
-        due("count(0) of [" + text + "]", house.count(0), steps);
-    }
-
-    private static String many(String piece, int n) {
-        return piece.repeat(n);
+        finish("PromiseTests");
     }
 
     // Promise 1.
@@ -496,7 +408,8 @@ public final class PromiseTests {
         dueShown("main = " + letters + " 1;", letters + " 1");
         LazyHouse longer = begun("main = " + letters + " 12;", 100);
         due("a TEXT of 1501", longer.step(100), 18);
-        dueText("a TEXT of 1501", shown(longer), letters + " 1");
+        due("its bytes", longer.size(), 1500);
+        dueText("a TEXT of 1501", shownAtLast("main = " + letters + " 12;", 100), letters + " 1");
         due("its frames", longer.count(4), 0);
         due("its steps", longer.count(0), 6);
         // A CALL of 102 cells with 11 cells of a DATUM: 7 ahead of 6, where both would be.
@@ -627,14 +540,6 @@ public final class PromiseTests {
             + "main = take 3 xs;", "C 1 (C 1 (C 1 N))");
         dueShown("ev n = case n of { 0 -> True; m -> od (n - 1) }; od n = case n of { 0 -> False; m -> ev (n - 1) }; "
             + "main = T (ev 10) (od 10);", "T True False");
-    }
-
-    private static void dueCounts(String text, int made, int worked, int steps) {
-        LazyHouse house = begun(text, 20000);
-        due("step(20000) of [" + text + "]", house.step(20000), 1);
-        due("count(1) of [" + text + "]", house.count(1), made);
-        due("count(5) of [" + text + "]", house.count(5), worked);
-        due("count(0) of [" + text + "]", house.count(0), steps);
     }
 
     private static void stepMade() {
@@ -800,12 +705,6 @@ public final class PromiseTests {
         countOfFrames();
         countWithoutMachine();
         countOfDelays();
-    }
-
-    private static void dueFrames(LazyHouse house, int steps, int frames, int cells) {
-        house.step(steps);
-        due("count(4) behind " + house.count(0), house.count(4), frames);
-        due("count(3) behind " + house.count(0), house.count(3), cells);
     }
 
     private static void countOfFrames() {
