@@ -12,6 +12,8 @@ public final class CallBoundaryTests extends Due {
         endRefused();
         programAnswers();
         programRemoves();
+        programsOfOtherLengths();
+        programBehindEachEnd();
         heapLimits();
         heapFromTheNextStart();
         startAnswers();
@@ -228,6 +230,38 @@ public final class CallBoundaryTests extends Due {
         due("names of an old program", read(house, "main = f;"), -8);
         due("names of a WRONG program", read(house, "g = 1; main = f;"), -15);
         due("a DEFINITION as often as one likes", read(house, "g = 1; main = 2;"), 2);
+    }
+
+    /** What every program knows, True and False and main, is the same in each of several on one object. */
+    private static void programsOfOtherLengths() {
+        String text = "main = T (1 < 2) (2 < 1) (case 1 == 1 of { True -> Y; z -> z }) (case 1 == 2 of { False -> Y; z -> z }) True False;";
+        String[] others = {"main = 1;", "main = Abc Def Ghi (Jkl 1 2 3) Mno;", "f x y = \\z -> x y z; main = f 1;", "$", "", many("abc = 1; ", 9)};
+        LazyHouse house = new LazyHouse();
+        for (String other : others) {
+            read(house, other);
+            due("a program again", read(house, text), 1);
+            due("it starts", house.start(), 1);
+            due("to its end", house.step(1000), 1);
+            dueText("behind [" + other + "]", shown(house), "T True False Y Y True False");
+        }
+    }
+
+    /** However a machine ended, the next program on the object begins from the beginning. */
+    private static void programBehindEachEnd() {
+        String[] texts = {
+            "main = 1;", "main = A 1 (B 2);", "main = main;", "main = 1 2;", "main = case 1 of { 2 -> 3 };", "main = K + 1;", "main = 1 / 0;",
+            "main = K 1 2 3 4 5 6 7 8 9;", "f n = 1 + f n; main = f 1;", "main = K" + many("k", 1500) + ";", "f x = f (P x); main = f 1;",
+        };
+        for (String text : texts) {
+            LazyHouse house = begun(text, 10);
+            house.step(20000);
+            due("another program behind [" + text + "]", read(house, "d = 1 + 2; main = P d (Q d);"), 2);
+            due("it starts", house.start(), 1);
+            dueText("all is new", state(house), "0 0 0 2 1 0 0 0 0 -1");
+            due("it ends well", house.step(20000), 1);
+            dueText("its text", shown(house), "P 3 (Q 3)");
+            dueText("its end", state(house), "16 7 7 0 0 2 0 1 9 80");
+        }
     }
 
     // Promise 5: "-1: it is not 10 .. 20000."

@@ -11,6 +11,7 @@ public final class MachineBoundaryTests extends Due {
         cellsOfPart();
         cellsOfFrames();
         madeInPlaces();
+        wordsOfTheirOwn();
         traceOfSimple();
         traceOfDatum();
         traceOfCall();
@@ -233,6 +234,9 @@ public final class MachineBoundaryTests extends Due {
         for (String atom : delays) {
             dueMadeOf(atom, 3, 3);
         }
+        dueMadeOf("((\\x -> x) a)", 3, 3);
+        dueMadeOf("((let x = 1 in x) + a)", 3, 3);
+        dueMadeOf("((case a of { x -> x }) < (\\y -> y) b)", 4, 4);
         dueMadeOf("(d 1)", 2, 2);
         dueMadeOf("(case 1 of { a -> a })", 2, 2);
     }
@@ -247,6 +251,27 @@ public final class MachineBoundaryTests extends Due {
         dueMade(head + "let x = " + atom + " in 1" + given, inLet);
         String bare = atom.startsWith("(") && !atom.startsWith("((") ? atom.substring(1, atom.length() - 1) : atom;
         dueMade(head + "let x = " + bare + "; y = " + atom + " in 1" + given, 2 * inLet);
+    }
+
+    // "and the words of what is FREE in it": each object and each frame has its own, though the EXPRESSION is the same.
+
+    private static void wordsOfTheirOwn() {
+        // A FUNCTION, a DELAY, a DATUM, a PART, each made twice before one of them is used.
+        dueShown("f a = \\x -> a + x; main = case f 10 of { g -> case f 20 of { h -> T (g 1) (h 2) (g 3) } };", "T 11 22 13");
+        dueShown("f a = let x = a * 2 in P x; main = case f 10 of { P g -> case f 20 of { P h -> T g h g } };", "T 20 40 20");
+        dueShown("f a = P (a * 2); main = case f 10 of { P g -> case f 20 of { P h -> T h g h } };", "T 40 20 40");
+        dueShown("f a = P a; main = case f 10 of { g -> case f 20 of { h -> T g h g } };", "T (P 10) (P 20) (P 10)");
+        dueShown("s a b = a - b; f a = s a; main = case f 10 of { g -> case f 20 of { h -> T (g 1) (h 2) (g 3) } };", "T 9 18 7");
+        dueShown("f a = (\\x y -> a - x - y) 1; main = case f 10 of { g -> case f 20 of { h -> T (g 1) (h 2) (g 3) } };", "T 8 17 6");
+        // A LEFT, a CHOICE, a CALL, an UPDATE, in one another as often as f calls itself.
+        dueShown("f n = case n of { 0 -> 0; m -> f (n - 1) + n }; main = f 10;", "55");
+        dueShown("f n = case n of { 0 -> 0; m -> f (n - 1) * 2 - n }; main = f 5;", "-57");
+        dueShown("f n = case n of { 0 -> N; m -> case f (n - 1) of { z -> C n m z } }; main = f 3;", "C 3 3 (C 2 2 (C 1 1 N))");
+        dueShown("f n = case n of { 0 -> \\x -> x; m -> \\x -> f (n - 1) (x * 10 + n) }; main = f 4 0;", "4321");
+        dueShown("s a b = a * 10 + b; f n = case n of { 0 -> s 7; m -> (\\g -> s (g n)) (f (n - 1)) }; main = f 3 9;", "71239");
+        dueShown("f n = let x = case n of { 0 -> 0; m -> f (n - 1) }; y = n in x * 10 + y; main = f 5;", "12345");
+        // The same DELAY, made in each round, entered when all rounds are over.
+        dueShown("f n k = case n of { 0 -> k; m -> f (n - 1) (C (n * n) k) }; main = f 4 N;", "C 1 (C 4 (C 9 (C 16 N)))");
     }
 
     // Each kind of STEP: behind each one cells made, cells reached, cells of frames, frames, DELAYS worked on, bytes.

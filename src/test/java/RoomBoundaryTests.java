@@ -208,6 +208,10 @@ public final class RoomBoundaryTests extends Due {
         dueLeast("f a b = B a b 2 3 4 5 6 7 8 9; main = f (A 1 2 3) (C 1);", 12 + 5 + 3);
         dueLeast("f a b = let x = B 1 2 3 4 5 6 7 8 9 0 in 1; main = f (A 1 2 3) (C 1);", 12);
         dueLeast("f a b = let x = B 1 2 3 4 5 6 7 8 9 0 in b; main = f (A 1 2 3) (C 1);", 12 + 3);
+        // As the step begins a is FREE in the let, though nothing has it behind the step.
+        dueLeast("f a = let x = B a 1 2 3 4 5 6 7 8 9 in 1; main = f (A 1 2 3);", 12 + 5);
+        dueLeast("f a = let x y = B a 1 2; z = B 1 2 3 4 5 6 7 8 9 0 in 1; main = f (A 1 2 3);", 12 + 3 + 5);
+        dueLeast("k x = 1; f a = k (B a 1 2 3 4 5 6 7 8 9); main = f (A 1 2 3);", 12 + 5);
         // b is FREE in what stands behind a let, or within a FUNCTION that is made.
         dueLeast("f a b = \\x -> b x 1 2 3 4 5; main = f (A 1 2 3 4 5 6) (C 1 2 3 4 5 6 7);", 8 + 9);
         dueLeast("f a b = let x = B 1 2 3 4 5 6 7 8 9 0 in \\y -> b; main = f (A 1 2 3) (C 1);", 12 + 3);

@@ -621,37 +621,58 @@ public final class TextBoundaryTests extends Due {
     // "FREE in an EXPRESSION are the NAMES in it that something around it binds, DEFINITIONS aside (each once)."
 
     private static void free() {
-        // A FUNCTION takes 2 cells and 1 for each word of what is FREE in it.
-        dueFree("1", 0);
-        dueFree("z", 0);
-        dueFree("d", 0);
-        dueFree("f", 0);
-        dueFree("a", 1);
-        dueFree("a+a*a", 1);
-        dueFree("a b", 2);
-        dueFree("K a b a b(a(b a))", 2);
-        dueFree("a b c", 3);
-        dueFree("a b c z d f", 3);
-        dueFree("let a=1 in a", 0);
-        dueFree("let a=b in a", 1);
-        dueFree("let u=a;a=1 in b", 1);
-        dueFree("(let a=1 in a)+a", 1);
-        dueFree("\\a->a", 0);
-        dueFree("\\a->a b c", 2);
-        dueFree("(\\a->a)a", 1);
-        dueFree("case a of{a->a}", 1);
-        dueFree("case 1 of{a->a}", 0);
-        dueFree("case 1 of{P a b->a b;Q b->a}", 1);
-        dueFree("case 1 of{P a b->c;Q c->b}", 2);
-        dueFree("\\z->\\z->z c", 1);
-        // The same name bound within by another: the outer is FREE once, the inner not.
-        dueFree("K a(\\a->a)a(let a=b in a)", 2);
+        dueFree("1", "");
+        dueFree("z", "");
+        dueFree("d", "");
+        dueFree("f", "");
+        dueFree("a", "a");
+        dueFree("c", "c");
+        dueFree("a+a*a", "a");
+        dueFree("a b", "ab");
+        dueFree("b<c", "bc");
+        dueFree("K a b a b(a(b a))", "ab");
+        dueFree("a b c", "abc");
+        dueFree("a b c z d f", "abc");
+        dueFree("let a=1 in a", "");
+        dueFree("let a=b in a", "b");
+        dueFree("let u=a;a=1 in b", "b");
+        dueFree("let u=v;v=u c in b u", "bc");
+        dueFree("let u b=b c in u", "c");
+        dueFree("\\a->a", "");
+        dueFree("\\a->a b c", "bc");
+        dueFree("\\z->\\z->z c", "c");
+        dueFree("case a of{a->a}", "a");
+        dueFree("case 1 of{a->a}", "");
+        dueFree("case 1 of{P a b->a b;Q b->a}", "a");
+        dueFree("case 1 of{P a b->c;Q c->b}", "bc");
+        // The same name bound within by another, ahead of it, behind it, or on the other side of a sign.
+        dueFree("(\\a->a)1", "");
+        dueFree("(\\a->a)a", "a");
+        dueFree("(\\a->a)b", "b");
+        dueFree("(let a=1 in a)+b", "b");
+        dueFree("(let a=1 in a)+a", "a");
+        dueFree("b+(let a=1 in a)", "b");
+        dueFree("(\\a->a)1*(\\b->b)2-(case c of{c->c})", "c");
+        dueFree("(case 1 of{a->a})==(case 1 of{b->b})", "");
+        dueFree("K(\\a->a)b", "b");
+        dueFree("K a(\\a->a)a(let a=b in a)", "ab");
+        dueFree("(let u=1 in u)(\\v->v)(case 1 of{w->w})", "");
     }
 
-    private static void dueFree(String body, int words) {
-        String text = "d=1;f a b c=\\z->" + body + ";main=f 1 2 3;";
-        LazyHouse house = begun(text, 100);
-        due("step(100) of [" + text + "]", house.step(100), 1);
-        due("FREE in [" + body + "]", house.count(1), 2 + words);
+    /** The same in a FUNCTION, a DELAY, a CHOICE, a LEFT, and of EVALUATE. A DATUM of 3, 4 and 5 cells are a, b and c. */
+    private static void dueFree(String body, String names) {
+        int words = names.length();
+        int cells = (names.contains("a") ? 3 : 0) + (names.contains("b") ? 4 : 0) + (names.contains("c") ? 5 : 0);
+        due("a FUNCTION of [" + body + "]", evaluated("\\z->" + body, 6).count(1), 12 + 2 + words);
+        due("a DELAY of [" + body + "]", evaluated("let y=" + body + " in 1", 6).count(1), 12 + 2 + words);
+        due("a CHOICE with [" + body + "]", evaluated("case 1 of{u->" + body + "}", 6).count(3), 5 + 2 + words);
+        due("a LEFT with [" + body + "]", evaluated("1+(" + body + ")", 6).count(3), 5 + 2 + words);
+        due("EVALUATE [" + body + "]", evaluated(body, 5).count(2), cells);
+    }
+
+    private static LazyHouse evaluated(String body, int steps) {
+        LazyHouse house = begun("d=1;z=1;f a b c=" + body + ";main=f(A 1)(B 1 2)(C 1 2 3);", 100);
+        due("steps of [" + body + "]", house.step(steps), 0);
+        return house;
     }
 }
